@@ -81,7 +81,7 @@ public final class ModelTest {
     }
 
     private static void texts() {
-        for (int i = 0; i < 3000; i++) {
+        for (int i = 0; i < 1500; i++) {
             dice = i;
             ClocksTold x = new ClocksTold();
             Model m = new Model();
@@ -242,7 +242,7 @@ public final class ModelTest {
         FACE.sort(Comparator.comparing(Method::getName));
         CHECK.due("methods of the face", FACE.size(), 35);
         texts();
-        int runs = args.length > 0 ? Integer.parseInt(args[0]) : 400;
+        int runs = args.length > 0 ? Integer.parseInt(args[0]) : 300;
         for (int seed = 0; seed < runs; seed++) {
             run(seed);
             if (CHECK.wrong() > 20) {
