@@ -562,8 +562,9 @@ public final class ClocksTold {
             values[clock] = v;
             now.heard[clock] = now.today - ago;
             now.balks[clock] = false;
-            // An undone clock may have left its row in this place.
-            Arrays.fill(rows, clock * 4, clock * 4 + 4, 0);
+            for (int part = 0; part < 4; part++) {
+                rows[clock * 4 + part] = 0;
+            }
             learn(clock);
             return clock;
         }

@@ -92,6 +92,10 @@ public final class BenchesTest {
             due("of(0, 5) of a TOLD", x.of(0, 5), want);
             x.pass(1);
         }
+        Check.bench(x, "pace 1");
+        due("of(0, 5) of a TOLD with PACE 1", x.of(0, 5), 1);
+        x.pass(1);
+        due("of(0, 5) at 106", x.of(0, 5), 1 + 4);
     }
 
     private static void left() {
@@ -225,6 +229,23 @@ public final class BenchesTest {
         due("row(0, 0, 10)", x.row(0, 0, 10), -2);
         due("row(1, 0, -1)", x.row(1, 0, -1), -2);
         due("row(1, 0, 1)", x.row(1, 0, 1), -3);
+        rowsOfSix();
+    }
+
+    private static void rowsOfSix() {
+        ClocksTold x = CHECK.of(6, 0, 1, 6, 0, 1, 6, 0, 1, 6, 0, 1, 6, 0, 1, 6, 0, 1);
+        for (int i = 0; i < 24; i++) {
+            due("row(" + i / 4 + ", " + i % 4 + ")", x.row(i / 4, i % 4, i * 7 % 10), 0);
+        }
+        for (int i = 0; i < 24; i++) {
+            due("row(" + i / 4 + ", " + i % 4 + ")", x.row(i / 4, i % 4, i * 7 % 10), i * 7 % 10);
+        }
+        for (int part = 0; part < 4; part++) {
+            for (int i = 0; i < 6; i++) {
+                due("of(" + i + ", 5) at part " + part, x.of(i, 5), 5 + (i * 4 + part) * 7 % 10);
+            }
+            x.pass(1);
+        }
     }
 
     private static void feed() {

@@ -259,12 +259,12 @@ public final class EveningsTest {
         due("can(0, -1)", x.can(0, -1), -1);
         due("can(2, 0)", x.can(2, 0), -1);
         due("of(0, 1) is as it was", x.of(0, 1), 2);
-        ClocksTold y = CHECK.enter(CHECK.with("news 9 v>4"), 0, 6, 50);
+        ClocksTold y = CHECK.enter(CHECK.with("news 9 v>4"), 0, 2, 50);
         y.see(0, 1, 1);
         due("can(0, 0) by v in a TEST", y.can(0, 0), 5);
         due("can(0, 1)", y.can(0, 1), 5);
-        due("news(0, 5) is as it was", y.news(0, 5), 10);
-        due("of(0, 4) is as it was", y.of(0, 4), 500);
+        due("news(0, 5) is as it was", y.news(0, 5), 1);
+        due("of(0, 4) is as it was", y.of(0, 4), 50);
         ClocksTold z = CHECK.enter(CHECK.with("news 5 d=3"), 2, 9, 20);
         z.see(0, 3, 1);
         due("can(0, 0): 6 is minded with v 0, 1, 2", z.can(0, 0), 3);

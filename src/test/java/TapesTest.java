@@ -120,6 +120,20 @@ public final class TapesTest {
         due("looked()", x.looked(), -5);
     }
 
+    private static void undoToFewer() {
+        ClocksTold x = CHECK.of(6, 1, 10);
+        x.image();
+        x.clock(6, 9, 20);
+        x.row(1, 0, 5);
+        x.balk(1, true);
+        due("undo()", x.undo(), 1);
+        due("of(1, 0) of one that is no more", x.of(1, 0), -1);
+        due("clock(6, 2, 30)", x.clock(6, 2, 30), 1);
+        due("of(1, 1)", x.of(1, 1), 2);
+        due("of(1, 3)", x.of(1, 3), 0);
+        due("of(1, 5)", x.of(1, 5), 5);
+    }
+
     private static ClocksTold ofAllKinds() {
         return CHECK.of(0, 3, 0, 1, 5, 0, 2, 4, 0, 3, 2, 0, 4, 7, 0, 5, 1, 0);
     }
@@ -166,11 +180,11 @@ public final class TapesTest {
 
     private static void actsAtEdges() {
         CHECK.promise(29);
-        ClocksTold x = CHECK.of(2, 0, 0, 0, 1, 0);
+        ClocksTold x = CHECK.of(2, 0, 0, 0, 1, 0, 1, 0, 0);
         due("act(0, 0, highest) wraps", x.act(0, 0, HIGHEST), HIGHEST - 2);
         due("act(1, 0, highest) wraps", x.act(1, 0, HIGHEST), LOWEST);
         due("act(1, 2, 1 << 30) wraps", x.act(1, 2, 1 << 30), LOWEST);
-        int[][] none = {{2, 0}, {-1, 0}, {0, 3}, {0, -1}, {6, 1}};
+        int[][] none = {{3, 0}, {2, 3}, {2, -1}, {-1, 0}, {0, 3}, {0, -1}, {6, 1}};
         for (int[] call : none) {
             x.act(1, 2, 5);
             due("count(6)", x.count(6), 3);
@@ -328,6 +342,7 @@ public final class TapesTest {
     public static void main(String[] args) {
         judge();
         imageAndUndo();
+        undoToFewer();
         acts();
         actsAtEdges();
         taken();
