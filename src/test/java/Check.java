@@ -1,5 +1,6 @@
 /** Counts the answers that are not as due, and ends the test; and makes what many tests begin with. */
 final class Check {
+    private static final int MOST_TOLD = 50;
     private int looked = 0;
     private int wrong = 0;
     private String promise = "";
@@ -8,16 +9,27 @@ final class Check {
         promise = "promise " + number + ": ";
     }
 
+    /** The name of a test stands ahead of what it finds. */
+    void named(String name) {
+        promise = name + ": ";
+    }
+
     void due(String call, long got, long want) {
         looked++;
         if (got != want) {
             wrong++;
-            System.out.println(promise + call + " answered " + got + ", due is " + want);
+            if (wrong <= MOST_TOLD) {
+                System.out.println(promise + call + " answered " + got + ", due is " + want);
+            }
         }
     }
 
     int wrong() {
         return wrong;
+    }
+
+    int looked() {
+        return looked;
     }
 
     void end(String name) {

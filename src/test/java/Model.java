@@ -2,6 +2,7 @@ import java.util.ArrayList;
 import java.util.HashMap;
 import java.util.List;
 import java.util.Map;
+import java.util.regex.Pattern;
 
 /**
  * The document once more, written without regard to speed and in another way than the program:
@@ -58,16 +59,20 @@ public final class Model {
 
     // ---- texts
 
+    static final Pattern PACE = Pattern.compile("pace [0-9]{1,2}");
+    static final Pattern NEWS = Pattern.compile("(news|hush) [0-9]{1,2} .*");
+    static final Pattern TEST = Pattern.compile("[ckvdth][<=>][0-9]{1,2}");
+
     static boolean isBench(String s) {
         String[] clauses = s.split(";", -1);
         if (clauses.length > 10) {
             return false;
         }
         for (String c : clauses) {
-            if (c.matches("pace [0-9]{1,2}")) {
+            if (PACE.matcher(c).matches()) {
                 continue;
             }
-            if (!c.matches("(news|hush) [0-9]{1,2} .*")) {
+            if (!NEWS.matcher(c).matches()) {
                 return false;
             }
             if (!isE(c.substring(c.indexOf(' ', 5) + 1), 0)) {
@@ -102,7 +107,7 @@ public final class Model {
     }
 
     static boolean isF(String s, int within) {
-        if (s.matches("[ckvdth][<=>][0-9]{1,2}")) {
+        if (s.length() < 5 && TEST.matcher(s).matches()) {
             return true;
         }
         if (within > 3 || s.isEmpty()) {
