@@ -251,6 +251,7 @@ public final class EdgesOfBenchesTest {
     static void p03HoldsOfWatchIsAsFastAndV() {
         Talk.with("pace 7").enter(4, 0, 0).due("of(0, 5)", 14);
         Talk.with("pace 7").enter(4, 9, 0).due("of(0, 5)", 23);
+        Talk.with("pace 99").enter(4, 9, 0).due("of(0, 5)", 207);
     }
 
     static void p03HoldsOfToldIsAsSlowAndRow() {
@@ -258,6 +259,10 @@ public final class EdgesOfBenchesTest {
         x.due("of(0, 5)", 1);
         x.does("row(0, 0, 9)");
         x.due("of(0, 5)", 1 + 9);
+        Talk y = Talk.with("pace 99").enter(6, 9, 0);
+        y.due("of(0, 5)", 49);
+        y.does("row(0, 0, 9)");
+        y.due("of(0, 5)", 49 + 9);
     }
 
     static void p03HoldsOfToldWrapsWithTodayModulo4() {
@@ -281,6 +286,15 @@ public final class EdgesOfBenchesTest {
         y.due("of(1, 6)", 96);
     }
 
+    static void p03MindsFromVAnd4OnForEachV() {
+        for (int v = 0; v <= 9; v++) {
+            for (int kind : new int[] {2, 5}) {
+                Talk.with("news " + (v + 2) + " h=97").enter(kind, v, 10).due("of(0, 6)", WITHOUT);
+                Talk.with("news " + (v + 3) + " h=97").enter(kind, v, 10).due("of(0, 6)", 97);
+            }
+        }
+    }
+
     static void p03BetDoesNotMindMultiplesOfVAnd2() {
         Talk x = Talk.with("news 98 h<99").enter(5, 0, 4, 5, 1, 4, 5, 2, 4, 5, 9, 1, 5, 9, 12);
         x.due("of(0, 6)", 97);
@@ -288,6 +302,18 @@ public final class EdgesOfBenchesTest {
         x.due("of(2, 6)", 97);
         x.due("of(3, 6)", WITHOUT);
         x.due("of(4, 6)", 89);
+    }
+
+    static void p03BetDoesNotMindMultiplesAmongHighDays() {
+        for (int v = 0; v <= 9; v++) {
+            Talk x = Talk.with("news 98 d<9|d=9").enter(5, v, 0).toDay(9999);
+            for (int from : new int[] {95, 995, 1095, 9985}) {
+                for (int day = from; day < from + 13; day++) {
+                    x.does("set(0, " + day + ")");
+                    x.due("of(0, 6)", day % (v + 2) != 0 ? day : day + 1);
+                }
+            }
+        }
     }
 
     static void p03Day0IsAMultipleThatNoBetMinds() {
@@ -317,6 +343,18 @@ public final class EdgesOfBenchesTest {
         x.due("pass(1)", 101);
         x.due("of(0, 6)", 100);
         x.due("of(1, 6)", WITHOUT);
+    }
+
+    static void p03MindedMayBeFarFromHeard() {
+        Talk x = Talk.with("news 98 h=50").enter(2, 0, 49, 5, 8, 100).toDay(150);
+        x.due("of(0, 6)", WITHOUT);
+        x.does("pass(1)");
+        x.due("of(0, 6)", 150);
+        x.due("of(1, 6)", WITHOUT);
+        Talk y = Talk.with("news 98 h=55").enter(5, 9, 100).toDay(155);
+        y.due("of(0, 6)", WITHOUT);
+        y.does("pass(1)");
+        y.due("of(0, 6)", 155);
     }
 
     static void p03MindedOfOneThatBalksIsMinus5() {
@@ -888,6 +926,68 @@ public final class EdgesOfBenchesTest {
             y.due("feed(" + sign + ")", 1);
             y.due("bench()", -10);
         }
+    }
+
+    private static final String DIGITS = "0123456789", FACTORS = "ckvdth!(", TESTS = "ckvdth";
+
+    /** Each byte behind a text: with the due ones a bench may begin so, any other is the fault. */
+    private static void dueBehind(String text, String due) {
+        for (int sign = 0; sign <= 127; sign++) {
+            long got = new Talk().bench(text + (char) sign);
+            boolean isFault = got == -10 - text.length();
+            boolean mayBegin = got == 0 || got == -10 - text.length() - 1;
+            boolean isDue = due.indexOf(sign) >= 0;
+            Edges.CHECK.due("bench() of '" + text + "' and byte " + sign + ": " + got, isDue ? mayBegin ? 1 : 0 : isFault ? 1 : 0, 1);
+        }
+    }
+
+    static void p09EachByteBehindWords() {
+        dueBehind("", "nhp");
+        for (String word : new String[] {"news ", "hush ", "pace "}) {
+            for (int i = 1; i < word.length(); i++) {
+                dueBehind(word.substring(0, i), word.substring(i, i + 1));
+            }
+            dueBehind(word, DIGITS);
+        }
+        dueBehind("pace 1", DIGITS + ";");
+        dueBehind("pace 12", ";");
+        dueBehind("pace 1;", "nhp");
+        for (String word : new String[] {"news ", "hush "}) {
+            dueBehind(word + "1", DIGITS + " ");
+            dueBehind(word + "12", " ");
+            dueBehind(word + "1 ", FACTORS);
+        }
+    }
+
+    static void p09EachByteInsideAnE() {
+        dueBehind("news 1 c", "<=>");
+        dueBehind("hush 1 h>", DIGITS);
+        dueBehind("news 1 v<1", DIGITS + "&|;");
+        dueBehind("news 1 v<12", "&|;");
+        dueBehind("news 1 v<12|", FACTORS);
+        dueBehind("news 1 v<12&", FACTORS);
+        dueBehind("news 1 !", FACTORS);
+        dueBehind("news 1 (", FACTORS);
+        dueBehind("news 1 !!!", FACTORS);
+        dueBehind("news 1 (((", FACTORS);
+        dueBehind("news 1 !!!!", TESTS);
+        dueBehind("news 1 ((((", TESTS);
+        dueBehind("news 1 (!(!", TESTS);
+        dueBehind("news 1 ((((c=1|", TESTS);
+        dueBehind("news 1 ((((c=1&", TESTS);
+        dueBehind("news 1 (((!c=1&", FACTORS);
+        dueBehind("news 1 (c=1", DIGITS + "&|)");
+        dueBehind("news 1 (c=12", "&|)");
+        dueBehind("news 1 (c=12)", "&|;");
+        dueBehind("news 1 ((c=12)", "&|)");
+        dueBehind("news 1 c=1;", "nhp");
+    }
+
+    static void p09EachByteBehindTheTenthClause() {
+        dueBehind("pace 1;".repeat(9) + "pace 1", DIGITS);
+        dueBehind("pace 1;".repeat(9) + "pace 12", "");
+        dueBehind("pace 1;".repeat(8) + "pace 12", ";");
+        dueBehind("pace 1;".repeat(9) + "hush 1 c=12", "&|");
     }
 
     private static String hundred() {

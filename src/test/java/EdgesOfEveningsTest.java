@@ -282,6 +282,36 @@ public final class EdgesOfEveningsTest {
         x.still("on(0, 60, 2)", 10059 - 690);
     }
 
+    static void p13DaysBeyond9999HaveNewsAsOthers() {
+        Talk x = Talk.with("pace 9;news 4 d<9|d=9").enter(0, 0, 2).toDay(9999);
+        x.does("set(0, 9997)");
+        x.still("on(0, 3, 0)", 10000);
+        x.still("on(0, 4, 0)", 10001);
+        x.still("on(0, 60, 0)", 10057);
+        x.still("on(0, 60, 2)", 2 * 5);
+    }
+
+    static void p13DaysBeyond9999AreMinded() {
+        Talk x = Talk.with("pace 1;news 9 h=1|h=2").enter(2, 0, 0, 5, 1, 0, 5, 8, 0).toDay(9999);
+        x.does("set(0, 9997)", "set(1, 9996)", "set(2, 9997)");
+        x.still("on(0, 3, 1)", 0);
+        x.still("on(0, 4, 1)", 1);
+        x.still("on(0, 60, 0)", 10001);
+        x.still("on(1, 6, 0)", 10001);
+        x.still("on(1, 60, 1)", 1);
+        x.still("on(2, 60, 1)", 0);
+    }
+
+    static void p13RowWrapsBeyond9999() {
+        Talk x = Talk.with("pace 1").enter(6, 0, 0).toDay(9999);
+        x.does("set(0, 9900)", "row(0, 0, 9)", "row(0, 1, 4)");
+        x.still("on(0, 1, 0)", 9901);
+        x.still("on(0, 2, 0)", 9911);
+        x.still("on(0, 3, 0)", 9916);
+        x.still("on(0, 4, 0)", 9917);
+        x.still("on(0, 6, 0)", 9928);
+    }
+
     // ---- promise 14: soonest
 
     static void p14KBelowMinus1OrAbove5IsNone() {
@@ -370,6 +400,9 @@ public final class EdgesOfEveningsTest {
         Talk x = Talk.of(0, 0, 0, 0, 0, 0).toDay(9999);
         x.does("set(0, 9969)");
         x.still("soonest(-1)", 4);
+        x.does("set(0, 9979)", "set(1, 9989)");
+        x.still("soonest(-1)", 4);
+        x.still("soonest(0)", 1);
     }
 
     // ---- promise 15: most
@@ -492,6 +525,16 @@ public final class EdgesOfEveningsTest {
         x.due("next()", 0);
         Talk y = Talk.of(0, 0, 11, 0, 0, 10);
         y.due("next()", 1);
+    }
+
+    static void p16LeastMayBeMuchMoreThanIsLeftNow() {
+        Talk x = Talk.with("news 99 c<9;".repeat(7) + "news 99 c<9").enter(0, 0, 9, 0, 0, 9, 0, 0, 9, 0, 0, 9, 0, 0, 9, 0, 0, 9);
+        x.does("balk(0, true)", "balk(1, true)", "balk(2, true)", "balk(3, true)", "balk(4, true)");
+        x.due("next()", 5);
+        x.does("balk(5, true)");
+        x.due("next()", 0);
+        x.does("balk(2, false)");
+        x.due("next()", 2);
     }
 
     static void p16GoesOnBeyond9999() {

@@ -167,8 +167,7 @@ public final class ModelTest {
         return want;
     }
 
-    private static void setUp(ClocksTold x, Model m, String at) {
-        String s = text();
+    private static void setUp(ClocksTold x, Model m, String at, String s) {
         for (int j = 0; j < s.length(); j++) {
             CHECK.due(at + ": feed", x.feed(s.charAt(j)), m.feed(s.charAt(j)));
         }
@@ -203,6 +202,29 @@ public final class ModelTest {
         }
     }
 
+    /** Few days of much news, so that a clock comes far before it minds one. */
+    private static String sparseText() {
+        StringBuilder s = new StringBuilder("pace " + from(1, 20));
+        for (int i = 0; i < 3; i++) {
+            s.append(";news ").append(from(3, 20)).append(" h=").append(roll(100));
+        }
+        return s.append(";news ").append(from(2, 9)).append(" d=").append(roll(10)).append("&t=").append(roll(10)).toString();
+    }
+
+    /** Clocks of the kinds that mind days, some days behind a late TODAY. */
+    private static void farOn(ClocksTold x, Model m, String at) {
+        for (int i = roll(20); i > 0; i--) {
+            CHECK.due("pass(60)", x.pass(60), m.pass(60));
+        }
+        for (int i = 0; i < 5; i++) {
+            int kind = oneOf(2, 5, 5, 6);
+            int v = roll(10);
+            int ago = roll(250) % (m.w.today + 1);
+            CHECK.due(at + ": clock", x.clock(kind, v, ago), m.clock(kind, v, ago));
+        }
+        setUp(x, m, at, sparseText());
+    }
+
     private static void run(int seed) throws Exception {
         dice = seed * 7919L + 13;
         ClocksTold x = new ClocksTold();
@@ -210,14 +232,16 @@ public final class ModelTest {
         int clocks = roll(8);
         for (int i = 0; i < 220; i++) {
             String at = "run " + seed + ", call " + i;
-            if (seed % 40 == 39 && i == 30) {
+            if (seed % 4 == 1 && i == 0) {
+                farOn(x, m, at);
+            } else if (seed % 40 == 39 && i == 30) {
                 late(x, m);
             } else if (i < clocks) {
                 Object[] args = args("clock", m.w.today);
                 CHECK.due(at + ": clock" + Arrays.toString(args), x.clock((int) args[0], (int) args[1], (int) args[2]),
                     m.clock((int) args[0], (int) args[1], (int) args[2]));
             } else if (roll(30) == 0) {
-                setUp(x, m, at);
+                setUp(x, m, at, seed % 4 == 1 ? sparseText() : text());
             } else if (roll(20) == 0) {
                 trueSight(x, m);
             } else if (roll(30) == 0) {
